@@ -63,6 +63,7 @@ public final class HalfLaddersPromises {
         images();
         count();
         trace();
+        wrongNumbers();
         System.out.println(wrong == 0 ? "all promises are kept" : wrong + " answers are not as due");
         if (wrong != 0) {
             System.exit(1);
@@ -165,6 +166,7 @@ public final class HalfLaddersPromises {
         x.orchard();
         due("quarrels are told anew", x.count(2), 0);
         String full = "left 1 1 1;".repeat(7) + "right 1 1 1;" + "tree 1 0 1;".repeat(5);
+        due("a full text", told("left 1 1 1;right 1 1 1;" + "quarrel 0 1;".repeat(23) + " ").count(2), 1);
         x = told(full);
         due("eight", x.count(0), 8);
         due("five", x.count(1), 5);
@@ -180,6 +182,9 @@ public final class HalfLaddersPromises {
         fault("lef", 0);
         fault("leftright 1 1 1;", 0);
         fault("Left 1 1 1;", 0);
+        fault("leftz 1 1 1;", 0);
+        fault("aleft 1 1 1;", 0);
+        fault("left 1 1 1;zright 1 1 1;", 11);
         fault("l eft 1 1 1;", 0);
         fault("left\t1 1 1;", 4);
         fault("left 0 1 1;", 5);
@@ -208,6 +213,13 @@ public final class HalfLaddersPromises {
         fault("left 1 1 1;quarrel 0 0;", 21);
         fault("left 1 1 1;quarrel 0 1;left 1 1 1;", 21);
         fault("left 1 1 1;right 1 1 1;quarrel 0 01;", 33);
+        fault(";".repeat(300), 0);
+        fault("left 1 1 1;" + ";".repeat(289), 11);
+        fault("quarrel 0 1;".repeat(25), 8);
+        fault("9".repeat(300), 0);
+        fault("left " + "0".repeat(295), 5);
+        fault("a".repeat(300), 0);
+        fault("left 1 1 1" + " ".repeat(290), 300);
         fault("left 1 1 1;".repeat(8) + "left", 88);
         fault("left 1 1 1;".repeat(8) + "right 0", 88);
         fault("tree 1 0 1;".repeat(5) + "tree", 55);
@@ -226,7 +238,8 @@ public final class HalfLaddersPromises {
         due("half 2", x.half(2, 0), HalfLadders.BAD);
         due("half -1", x.half(-1, 0), HalfLadders.BAD);
         x.climb(1, 0, 0);
-        due("did climb", x.half(0, 4) + x.half(1, 4), 2);
+        due("did climb", x.half(0, 4), 1);
+        due("did climb, too", x.half(1, 4), 1);
         x.ends();
         due("not on this day", x.half(0, 4) + x.half(1, 4), 0);
     }
@@ -675,5 +688,25 @@ public final class HalfLaddersPromises {
         due("of all calls together", x.trace(), 40000400L);
         x.orchard();
         due("read anew", x.trace(), 40000400L);
+    }
+
+    /** Numbers far outside are BAD wherever numbers are told, and change nothing. */
+    private static void wrongNumbers() {
+        promise = 0;
+        HalfLadders x = told("left 1 5 3;right 1 5 2;tree 1 0 9;");
+        int[] far = {Integer.MIN_VALUE, Integer.MIN_VALUE + 1, -65536, -32, -10, -2, 10, 31, 32, 33, 64, 256, 65536, Integer.MAX_VALUE};
+        for (int e : far) {
+            int[] answers = {x.type(0, e), x.half(e, 0), x.half(0, e), x.tree(e, 0), x.tree(0, e), x.fit(e, 0), x.fit(0, e),
+                x.fit(e, e), x.climb(e, 0, 0), x.climb(0, e, 0), x.climb(0, 1, e), x.now(e), x.best(e), x.season(e),
+                x.worth(e, 0), x.worth(0, e), x.asked(e), x.cuts(e), x.whose(e, 1, 0), x.whose(1, e, 0), x.whose(1, 1, e),
+                x.keep(e), x.back(e), x.count(e)};
+            for (int i = 0; i < answers.length; i++) {
+                due("call " + i + " with " + e, answers[i], HalfLadders.BAD);
+            }
+            due("mark of kind " + e, x.mark(e, 0), HalfLadders.NO);
+            due("mark of half " + e, x.mark(0, e), HalfLadders.NO);
+        }
+        due("whole of the first bit alone", x.whole(Integer.MIN_VALUE), 0);
+        due("nothing came of it", x.now(1) + x.now(4) + x.count(3) + x.trace(), 0);
     }
 }
