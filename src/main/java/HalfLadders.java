@@ -367,7 +367,7 @@ public final class HalfLadders {
         void cutIntoTokens() {
             int made = 0;
             int place = 0;
-            while (place < length) {
+            while (place < length && made < MOST_BYTES) {
                 if (at(place) == ' ') {
                     place++;
                 } else {
@@ -474,6 +474,7 @@ public final class HalfLadders {
                 }
                 looked++;
             }
+            look();
             return -10 - text.places[looked];
         }
 
